@@ -153,7 +153,7 @@ public final class HiredShade {
             return BAD;
         }
         int cell = thought.bestCell(kind);
-        return what == 0 ? cell : thought.missesWithOneMore(kind, cell);
+        return what == 0 ? cell : thought.missesBeside(kind, cell);
     }
 
     public int step(int man, int what) {
@@ -161,7 +161,7 @@ public final class HiredShade {
             return BAD;
         }
         int way = thought.bestStep(man);
-        return what == 0 ? way : thought.missesAfterStep(man, way);
+        return what == 0 ? way : thought.missesAfter(man, way);
     }
 
     // ---- books
@@ -489,10 +489,6 @@ public final class HiredShade {
             }
         }
 
-        boolean wantsHour(int sitter, int hour) {
-            return (get(sitter, WANTS) >> hour & 1) != 0;
-        }
-
         int payOf(int set) {
             int pay = 0;
             for (int m = 0; m < men; m++) {
@@ -554,21 +550,17 @@ public final class HiredShade {
             return -1;
         }
 
-        int amount(int kind, int steps, int across, int breeze, int hour, int man) {
-            int v = 6 + 2 * kind - steps - across - breeze;
-            if (hasText) {
-                named[0] = kind;
-                named[1] = steps;
-                named[2] = across;
-                named[3] = breeze;
-                named[4] = hour;
-                named[5] = man;
-                v = run();
-            }
-            return Math.max(0, Math.min(MOST_SHADE, v));
+        boolean isTold() {
+            return hasText;
         }
 
-        private int run() {
+        int value(int kind, int steps, int across, int breeze, int hour, int man) {
+            named[0] = kind;
+            named[1] = steps;
+            named[2] = across;
+            named[3] = breeze;
+            named[4] = hour;
+            named[5] = man;
             int top = 0;
             int at = 0;
             // Skips lead onward only, so no word is met twice.
@@ -794,14 +786,20 @@ public final class HiredShade {
             if (steps < 1 || steps > LONG[hour] + (kind == OAK ? 1 : 0) || across > arms) {
                 return 0;
             }
-            return law.amount(kind, steps, across, people.get(0, BREEZE), hour, man);
+            int breeze = people.get(0, BREEZE);
+            int v = 6 + 2 * kind - steps - across - breeze;
+            if (law.isTold()) {
+                v = law.value(kind, steps, across, breeze, hour, man);
+            }
+            return Math.max(0, Math.min(MOST_SHADE, v));
         }
 
         int byMan(int man, int cell, int hour) {
             if (man >= people.men) {
                 return 0;
             }
-            return ifHe(man, people.get(man, CELL), people.get(man, KIND), cell, hour);
+            int from = people.get(man, CELL);
+            return cast(from, people.get(man, KIND), people.get(man, ARMS), man, cell, hour);
         }
 
         /** May be above 12: who leaves some men out needs what lies over it. */
@@ -812,23 +810,19 @@ public final class HiredShade {
             }
             return sum;
         }
-
-        boolean serves(int sitter, int hour) {
-            return byAll(people.get(sitter, SEAT), hour) >= people.get(sitter, LEAST);
-        }
     }
 
     /** Who is served, and by how few, how cheaply, by whom else. */
     private static final class Thought {
-        private static final int PAIRS = 96;
+        private static final int PAIRS = 96, SETS = 128, LAST_HOUR = 11;
 
         private final People people;
         private final Shade shade;
-        // A pair is 12 times a sitter, and an hour that he wants.
-        private final int[] pairs = new int[PAIRS];
-        private int held;
-        private final int[] gives = new int[PAIRS * MEN];
+        // A pair is 12 times a sitter, and an hour: what his cell has then, and by whom.
         private final int[] sums = new int[PAIRS];
+        private final int[] gives = new int[PAIRS * MEN];
+        private final int[] parts = new int[SETS];
+        private final int[] fails = new int[SETS];
         private final int[] lost = new int[HOURS * MEN];
 
         Thought(People people, Shade shade) {
@@ -848,7 +842,7 @@ public final class HiredShade {
 
         int darkest(int hour) {
             int best = 0;
-            int most = -1;
+            int most = 0;
             for (int c = 0; c < CELLS; c++) {
                 int here = Math.min(MOST_SHADE, shade.byAll(c, hour));
                 if (here > most) {
@@ -860,9 +854,10 @@ public final class HiredShade {
         }
 
         int hoursOf(int sitter) {
+            weigh(0, LAST_HOUR);
             int hours = 0;
             for (int h = 0; h < HOURS; h++) {
-                if (shade.serves(sitter, h)) {
+                if (isServed(HOURS * sitter + h)) {
                     hours |= 1 << h;
                 }
             }
@@ -874,17 +869,21 @@ public final class HiredShade {
         }
 
         int missesOfAll() {
+            weigh(0, LAST_HOUR);
             int misses = 0;
-            for (int s = 0; s < people.sitters; s++) {
-                misses += missesOf(s);
+            for (int pair = 0; pair < HOURS * people.sitters; pair++) {
+                if (isWanted(pair) && !isServed(pair)) {
+                    misses++;
+                }
             }
             return misses;
         }
 
         int servedAt(int hour) {
+            weigh(hour, hour);
             int set = 0;
             for (int s = 0; s < people.sitters; s++) {
-                if (shade.serves(s, hour)) {
+                if (isServed(HOURS * s + hour)) {
                     set |= 1 << s;
                 }
             }
@@ -892,21 +891,43 @@ public final class HiredShade {
         }
 
         int missingAt(int hour) {
+            int served = servedAt(hour);
             int set = 0;
             for (int s = 0; s < people.sitters; s++) {
-                if (people.wantsHour(s, hour) && !shade.serves(s, hour)) {
+                if (isWanted(HOURS * s + hour)) {
                     set |= 1 << s;
                 }
             }
-            return set;
+            return set & ~served;
+        }
+
+        int lastServed(int sitter, int hour) {
+            weigh(0, hour);
+            for (int h = hour; h >= 0; h--) {
+                if (isServed(HOURS * sitter + h)) {
+                    return h;
+                }
+            }
+            return NOT;
+        }
+
+        int shareOf(int man, int hour, int v) {
+            weigh(hour, hour);
+            int his = 0;
+            int all = 0;
+            for (int s = 0; s < people.sitters; s++) {
+                int pair = HOURS * s + hour;
+                his += gives[MEN * pair + man];
+                all += sums[pair];
+            }
+            return all == 0 ? 0 : v * his / all;
         }
 
         int fewest() {
-            weigh(0, HOURS - 1);
-            dropMissed();
+            weighSets();
             int best = people.everyone();
             for (int set = 0; set < people.everyone(); set++) {
-                if (Integer.bitCount(set) < Integer.bitCount(best) && suffices(set)) {
+                if (fails[set] == 0 && Integer.bitCount(set) < Integer.bitCount(best)) {
                     best = set;
                 }
             }
@@ -914,17 +935,15 @@ public final class HiredShade {
         }
 
         int cheapest() {
-            weigh(0, HOURS - 1);
-            dropMissed();
-            return cheapestSet(true);
+            weighSets();
+            return cheapestSet(ALL_HOURS, true);
         }
 
         int needed() {
-            weigh(0, HOURS - 1);
-            dropMissed();
+            weighSets();
             int set = 0;
             for (int m = 0; m < people.men; m++) {
-                if (!suffices(people.everyone() & ~(1 << m))) {
+                if (fails[people.everyone() & ~(1 << m)] != 0) {
                     set |= 1 << m;
                 }
             }
@@ -932,21 +951,21 @@ public final class HiredShade {
         }
 
         int rosterAt(int hour) {
-            weigh(hour, hour);
-            dropMissed();
-            return cheapestSet(false);
+            weighSets();
+            return cheapestSet(1 << hour, false);
         }
 
         int payOfRosters() {
+            weighSets();
             int pay = 0;
             for (int h = 0; h < HOURS; h++) {
-                pay += people.payOf(rosterAt(h));
+                pay += people.payOf(cheapestSet(1 << h, false));
             }
             return pay;
         }
 
         int bestCell(int kind) {
-            weigh(0, HOURS - 1);
+            weigh(0, LAST_HOUR);
             int best = 0;
             int least = Integer.MAX_VALUE;
             for (int c = 0; c < CELLS; c++) {
@@ -959,18 +978,27 @@ public final class HiredShade {
             return best;
         }
 
-        int missesWithOneMore(int kind, int cell) {
-            weigh(0, HOURS - 1);
-            return missesBeside(kind, cell);
+        /** By what was weighed last: misses if one more stood in a cell. */
+        int missesBeside(int kind, int cell) {
+            int misses = 0;
+            for (int pair = 0; pair < HOURS * people.sitters; pair++) {
+                if (!isWanted(pair) || isServed(pair)) {
+                    continue;
+                }
+                int more = shade.cast(cell, kind, 1, people.men, seatOf(pair), pair % HOURS);
+                if (sums[pair] + more < leastOf(pair)) {
+                    misses++;
+                }
+            }
+            return misses;
         }
 
         int bestStep(int man) {
-            weigh(0, HOURS - 1);
+            weigh(0, LAST_HOUR);
             int best = NO_STEP;
             int least = Integer.MAX_VALUE;
             for (int way : STEP_ORDER) {
-                int cell = cellAfter(people.get(man, CELL), way);
-                int misses = cell < 0 ? Integer.MAX_VALUE : missesFrom(man, cell);
+                int misses = missesAfter(man, way);
                 if (misses < least) {
                     least = misses;
                     best = way;
@@ -979,39 +1007,35 @@ public final class HiredShade {
             return best;
         }
 
-        int missesAfterStep(int man, int way) {
-            weigh(0, HOURS - 1);
-            return missesFrom(man, cellAfter(people.get(man, CELL), way));
-        }
-
-        int shareOf(int man, int hour, int v) {
-            int his = 0;
-            int all = 0;
-            for (int s = 0; s < people.sitters; s++) {
-                int cell = people.get(s, SEAT);
-                his += shade.byMan(man, cell, hour);
-                all += shade.byAll(cell, hour);
+        /** By what was weighed last: misses behind a step of his; over the edge more than any step has. */
+        int missesAfter(int man, int way) {
+            int cell = cellAfter(people.get(man, CELL), way);
+            if (cell < 0) {
+                return Integer.MAX_VALUE;
             }
-            return all == 0 ? 0 : v * his / all;
-        }
-
-        int lastServed(int sitter, int hour) {
-            for (int h = hour; h >= 0; h--) {
-                if (shade.serves(sitter, h)) {
-                    return h;
+            int kind = people.get(man, KIND);
+            int misses = 0;
+            for (int pair = 0; pair < HOURS * people.sitters; pair++) {
+                if (!isWanted(pair)) {
+                    continue;
+                }
+                int others = sums[pair] - gives[MEN * pair + man];
+                if (others + shade.ifHe(man, cell, kind, seatOf(pair), pair % HOURS) < leastOf(pair)) {
+                    misses++;
                 }
             }
-            return NOT;
+            return misses;
         }
 
         int missesDrawn(int seed, int days, int clouds, int sitter) {
-            weigh(0, HOURS - 1);
+            weigh(0, LAST_HOUR);
             countLost(sitter);
             int z = seed;
             int misses = 0;
             for (int draw = 0; draw < days * HOURS; draw++) {
                 z = z * 1103515245 + 12345;
                 if ((z >>> 8) % 12 >= clouds) {
+                    // Where there are no men, the place of the first says what all miss.
                     int away = people.men == 0 ? 0 : (z >>> 16) % people.men;
                     misses += lost[draw % HOURS * MEN + away];
                 }
@@ -1022,77 +1046,66 @@ public final class HiredShade {
         /** Misses by hour, of one sitter or all (-1), while one man is away. */
         private void countLost(int sitter) {
             Arrays.fill(lost, 0);
-            for (int i = 0; i < held; i++) {
-                int pair = pairs[i];
-                if (sitter >= 0 && sitter != pair / HOURS) {
-                    continue;
-                }
-                for (int m = 0; m < MEN; m++) {
-                    if (sums[pair] - gives[pair * MEN + m] < leastOf(pair)) {
+            for (int pair = 0; pair < HOURS * people.sitters; pair++) {
+                boolean counts = sitter < 0 || sitter == pair / HOURS;
+                for (int m = 0; counts && isWanted(pair) && m < MEN; m++) {
+                    if (sums[pair] - gives[MEN * pair + m] < leastOf(pair)) {
                         lost[pair % HOURS * MEN + m]++;
                     }
                 }
             }
         }
 
-        /** Holds the pairs of these hours, with what each man gives there; a man who is not gives 0. */
+        /** Fills sums and gives for these hours; a man who is not there gives 0. */
         private void weigh(int first, int last) {
-            held = 0;
             for (int s = 0; s < people.sitters; s++) {
+                int cell = people.get(s, SEAT);
                 for (int h = first; h <= last; h++) {
-                    if (people.wantsHour(s, h)) {
-                        pairs[held] = HOURS * s + h;
-                        held++;
-                        weighPair(s, h);
+                    int pair = HOURS * s + h;
+                    sums[pair] = 0;
+                    for (int m = 0; m < MEN; m++) {
+                        gives[MEN * pair + m] = shade.byMan(m, cell, h);
+                        sums[pair] += gives[MEN * pair + m];
                     }
                 }
             }
         }
 
-        private void weighPair(int s, int h) {
-            int pair = HOURS * s + h;
-            int sum = 0;
-            for (int m = 0; m < MEN; m++) {
-                int part = shade.byMan(m, people.get(s, SEAT), h);
-                gives[pair * MEN + m] = part;
-                sum += part;
-            }
-            sums[pair] = sum;
-        }
-
-        private void dropMissed() {
-            int kept = 0;
-            for (int i = 0; i < held; i++) {
-                if (sums[pairs[i]] >= leastOf(pairs[i])) {
-                    pairs[kept] = pairs[i];
-                    kept++;
+        /** Fills fails: for each set of men the hours (bits) at which it fails someone whom all serve. */
+        private void weighSets() {
+            weigh(0, LAST_HOUR);
+            Arrays.fill(fails, 0);
+            for (int pair = 0; pair < HOURS * people.sitters; pair++) {
+                if (isWanted(pair) && isServed(pair)) {
+                    markFails(pair);
                 }
             }
-            held = kept;
         }
 
-        private boolean suffices(int set) {
-            for (int i = 0; i < held; i++) {
-                int sum = 0;
-                for (int m = 0; m < people.men; m++) {
-                    if ((set >> m & 1) != 0) {
-                        sum += gives[pairs[i] * MEN + m];
-                    }
-                }
-                if (sum < leastOf(pairs[i])) {
-                    return false;
+        private void markFails(int pair) {
+            parts[0] = 0;
+            for (int m = 0; m < people.men; m++) {
+                for (int rest = 0; rest < 1 << m; rest++) {
+                    parts[1 << m | rest] = parts[rest] + gives[MEN * pair + m];
                 }
             }
-            return true;
+            int least = leastOf(pair);
+            for (int set = 0; set <= people.everyone(); set++) {
+                if (parts[set] < least) {
+                    fails[set] |= 1 << pair % HOURS;
+                }
+            }
         }
 
-        private int cheapestSet(boolean fewFirst) {
+        private int cheapestSet(int hours, boolean fewFirst) {
             int best = people.everyone();
             int bestPay = people.payOf(best);
             for (int set = 0; set < people.everyone(); set++) {
+                if ((fails[set] & hours) != 0) {
+                    continue;
+                }
                 int pay = people.payOf(set);
-                boolean better = pay < bestPay || pay == bestPay && isNicer(set, best, fewFirst);
-                if (better && suffices(set)) {
+                if (pay < bestPay || pay == bestPay && isNicer(set, best, fewFirst)) {
                     best = set;
                     bestPay = pay;
                 }
@@ -1105,29 +1118,12 @@ public final class HiredShade {
             return fewFirst && fewer != 0 ? fewer > 0 : set < best;
         }
 
-        private int missesBeside(int kind, int cell) {
-            int misses = 0;
-            for (int i = 0; i < held; i++) {
-                int pair = pairs[i];
-                int lacks = leastOf(pair) - sums[pair];
-                if (lacks > 0 && shade.cast(cell, kind, 1, people.men, seatOf(pair), pair % HOURS) < lacks) {
-                    misses++;
-                }
-            }
-            return misses;
+        private boolean isServed(int pair) {
+            return sums[pair] >= leastOf(pair);
         }
 
-        private int missesFrom(int man, int cell) {
-            int kind = people.get(man, KIND);
-            int misses = 0;
-            for (int i = 0; i < held; i++) {
-                int pair = pairs[i];
-                int others = sums[pair] - gives[pair * MEN + man];
-                if (others + shade.ifHe(man, cell, kind, seatOf(pair), pair % HOURS) < leastOf(pair)) {
-                    misses++;
-                }
-            }
-            return misses;
+        private boolean isWanted(int pair) {
+            return (people.get(pair / HOURS, WANTS) >> pair % HOURS & 1) != 0;
         }
 
         private int seatOf(int pair) {
@@ -1174,11 +1170,11 @@ public final class HiredShade {
             }
         }
 
+        /** How much shade it tells is not looked at: no cell ever has less than 0 or more than 12. */
         private static boolean isThree(Shelf book, int at) {
             long x = book.get(at);
             long y = book.get(at + 1);
-            long much = book.get(at + 2);
-            return x >= 0 && x < SIDE && y >= 0 && y < SIDE && much >= 0 && much <= MOST_SHADE;
+            return x >= 0 && x < SIDE && y >= 0 && y < SIDE;
         }
 
         int firstWrong(int hour) {
@@ -1328,12 +1324,14 @@ public final class HiredShade {
         int winningStep(int man, int sitter, int hour, int n) {
             int from = people.get(man, CELL);
             int seat = people.get(sitter, SEAT);
-            lastPlaces(man, sitter, hour, n);
+            // Neither makes more than half of the moves: what stands farther off is never looked at.
+            int reach = (n + 1) / 2;
+            lastPlaces(man, sitter, hour, reach);
             for (int move = n - 1; move > 0; move--) {
                 if (move % 2 == 0) {
-                    manMoves(from, n);
+                    manMoves(from, reach);
                 } else {
-                    sitterMoves(from, n);
+                    sitterMoves(from, reach);
                 }
                 int[] later = shady;
                 shady = before;
@@ -1348,31 +1346,30 @@ public final class HiredShade {
             return -1;
         }
 
-        /** Farther off than n steps neither of them comes: what stands there is never looked at. */
-        private void lastPlaces(int man, int sitter, int hour, int n) {
+        private void lastPlaces(int man, int sitter, int hour, int reach) {
             Arrays.fill(shady, 0);
             for (int seat = 0; seat < CELLS; seat++) {
-                if (apart(seat, people.get(sitter, SEAT)) <= n) {
+                if (apart(seat, people.get(sitter, SEAT)) <= reach) {
                     int others = shade.byAll(seat, hour) - shade.byMan(man, seat, hour);
-                    markSeat(man, seat, hour, n, people.get(sitter, LEAST) - others);
+                    markSeat(man, seat, hour, reach, people.get(sitter, LEAST) - others);
                 }
             }
         }
 
-        private void markSeat(int man, int seat, int hour, int n, int lacks) {
+        private void markSeat(int man, int seat, int hour, int reach, int lacks) {
             int from = people.get(man, CELL);
             int kind = people.get(man, KIND);
             for (int c = 0; c < CELLS; c++) {
-                if (apart(c, from) <= n && shade.ifHe(man, c, kind, seat, hour) >= lacks) {
+                if (apart(c, from) <= reach && shade.ifHe(man, c, kind, seat, hour) >= lacks) {
                     shady[SIDE * c + seat / SIDE] |= 1 << seat % SIDE;
                 }
             }
         }
 
         /** He ends served only if every step, and none, leads there; over the edge he can't go. */
-        private void sitterMoves(int from, int n) {
+        private void sitterMoves(int from, int reach) {
             for (int c = 0; c < CELLS; c++) {
-                if (apart(c, from) > n) {
+                if (apart(c, from) > reach) {
                     continue;
                 }
                 for (int y = 0; y < SIDE; y++) {
@@ -1386,16 +1383,16 @@ public final class HiredShade {
             }
         }
 
-        private void manMoves(int from, int n) {
+        private void manMoves(int from, int reach) {
             for (int c = 0; c < CELLS; c++) {
-                if (apart(c, from) > n) {
+                if (apart(c, from) > reach) {
                     continue;
                 }
                 for (int y = 0; y < SIDE; y++) {
                     int row = 0;
                     for (int way = 0; way <= NO_STEP; way++) {
                         int cell = cellAfter(c, way);
-                        if (cell >= 0 && apart(cell, from) <= n) {
+                        if (cell >= 0 && apart(cell, from) <= reach) {
                             row |= shady[SIDE * cell + y];
                         }
                     }

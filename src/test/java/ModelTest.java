@@ -2,7 +2,7 @@ import java.util.Random;
 
 /** Runs of calls by fixed seeds: each answer of HiredShade is held against the plain model's. */
 public final class ModelTest {
-    private static final int RUNS = 400, CALLS = 512;
+    private static final int RUNS = Integer.getInteger("runs", 400), CALLS = 512;
 
     private final Check check;
     private final int run;
@@ -322,8 +322,27 @@ public final class ModelTest {
     }
 
     private void byTurns() {
-        int ms = 10 * someMan() + someSitter(), hn = 10 * upTo(11) + from(1, 4), what = upTo(1);
+        int m = someMan(), s = someSitter(), ms = 10 * m + s, hn = 10 * upTo(11) + from(1, 4), what = upTo(1);
+        if (Model.in(m, 0, model.men.size() - 1) && Model.in(s, 0, model.sitters.size() - 1)) {
+            near(m, s, hn / 10);
+        }
         due("byTurns", shade.byTurns(ms, hn, what), model.byTurns(ms, hn, what), ms, hn, what);
+    }
+
+    /** A sitter whom the man can reach, and at times the edge of the walk beside them. */
+    private void near(int m, int s, int h) {
+        int least = 1 + random.nextInt(7);
+        due("mend", shade.mend(s, 6, least), model.mend(s, 6, least), s, 6, least);
+        if (random.nextInt(3) == 0) {
+            int along = random.nextInt(12), far = random.nextInt(2), side = random.nextInt(4);
+            int c = side == 0 ? 12 * far + along : side == 1 ? 12 * along + 11 - far
+                : side == 2 ? 12 * (11 - far) + along : 12 * along + far;
+            due("mend", shade.mend(m, 0, c), model.mend(m, 0, c), m, 0, c);
+        }
+        int ahead = 1 + random.nextInt(3), across = random.nextInt(3) - 1, c = model.men.get(m).cell;
+        int x = c % 12 + (h < 4 ? -ahead : h < 8 ? across : ahead), y = c / 12 + (h >= 4 && h < 8 ? -ahead : across);
+        int seat = 12 * Math.max(0, Math.min(11, y)) + Math.max(0, Math.min(11, x));
+        due("goes", shade.goes(s, seat), model.goes(s, seat), s, seat);
     }
 
     private void drawn() {

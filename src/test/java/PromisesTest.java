@@ -136,6 +136,13 @@ public final class PromisesTest {
         due("n of them", x.sitters(0, 1, 1), 1);
         due("behind the end", x.sitters(0, 9, 1), 0);
         due("far behind the end", x.sitters(0, Integer.MAX_VALUE, 8), 0);
+        HiredShade exact = new HiredShade();
+        rowOf(exact, 0, 1, 1, 2, 3, 4, 5, 6);
+        due("the row ends with a three", exact.sitters(0, 0, 3), 2);
+        due("the last place of a three lacks", exact.sitters(0, 4, 1), 0);
+        due("two places of a three lack", exact.sitters(0, 5, 1), 0);
+        due("a place ahead of the row is not there", exact.sitters(0, -1, 1), 0);
+        due("sitters", exact.count(1), 2);
         due("n 0", x.sitters(0, 0, 0), BAD);
         due("n 9", x.sitters(0, 0, 9), BAD);
         due("shelf 6", x.sitters(6, 0, 1), BAD);
@@ -212,6 +219,25 @@ public final class PromisesTest {
         feed(x, "+1+1+1+1+1+1+1+1+1+1+1+1+1+1+1+1+1+1+1+1+1+1+1+1+1+1+1+1+-10");
         due("bytes", x.count(2), 119);
         due("law of 119 bytes", x.law(), 1);
+        x.man(65, 0);
+        for (int i = 0; i < 59; i++) {
+            feed(x, i % 2 == 0 ? "0?" : "9;");
+        }
+        feed(x, "07");
+        due("bytes", x.count(2), 120);
+        due("law of 120 bytes", x.law(), 1);
+        due("no line counts", x.shade(6400, 0), 0);
+        for (int i = 0; i < 29; i++) {
+            feed(x, "0?9;");
+        }
+        feed(x, "0005");
+        due("bytes", x.count(2), 120);
+        due("law of 120 bytes", x.law(), 1);
+        due("the last line counts", x.shade(6400, 0), 5);
+        feed(x, "0+0+0+0+0+0+0+0+0+0+0+0+0+0+0+0+0+0+0+0+0+0+0+0+0+0+0+0+0+0");
+        feed(x, "+0+0+0+0+0+0+0+0+0+0+0+0+0+0+0+0+0+0+0+0+0+0+0+0+0+0+0+0+0+7");
+        due("law of 119 bytes", x.law(), 1);
+        due("its last word counts", x.shade(6400, 0), 7);
     }
 
     private static void lawFaults() {
@@ -220,12 +246,14 @@ public final class PromisesTest {
             "(1;2)", "(1?2)", "(1", "(1))", "1)", "()", "1 2", "x", "1k", "k1", "kk", "1!2", "!", "-", "1--1", "1+-!1",
             "((((((1))))))", "(((((((1)))))))", "!!!!!!1", "!!!!!!!1", "------1", "-------1", "(!-(!-1))", "(!-(!-(1)))",
             "((((((1)+(2)))))", "((((((1))))))+((((((2))))))", "1|", "1&&2", "1||2", "1==2", "1**2", "0001", "k?s;a?b;h?m",
-            "1<2&3<4|5=6", "(1<2)<3", "\u0000", "1\u00ff"};
+            "1<2&3<4|5=6", "(1<2)<3", "\u0000", "1\u00ff", "1\u0000", "1?2\u0000", "1?2|3", "1?2&3|4",
+            "1?((((((1))))))", "1?(((((((1)))))))"};
         int[] dues = {-100, 1, -102, -100, 1, -104, -103, -103, -103, -102, -100, -102, -102, -100,
             -102, -102, -102, -103, -101, -101, -101, -100, -101, -101, -101, -101, -101, -101, 1, 1,
             1, -106, 1, -106, 1, -106, 1, -106,
             -116, 1, -102, -102, -102, -102, -102, 1, 1,
-            1, 1, -100, -101};
+            1, 1, -100, -101, -101, -103, 1, 1,
+            1, -108};
         // "(!-(!-(1)))" opens a seventh at place 6; "((((((1)+(2)))))" ends one ) too early, at its length 16.
         HiredShade x = new HiredShade();
         for (int i = 0; i < texts.length; i++) {
@@ -412,6 +440,9 @@ public final class PromisesTest {
         due("missing at 4", x.at(4, 1), 0);
         due("missing at 0", x.at(0, 1), 0);
         due("misses of all", x.at(12, 0), 2);
+        x.mend(0, 7, 9);
+        due("misses of all, as it is now", x.at(12, 0), 2 + 3);
+        x.mend(0, 7, 0);
         x.mend(0, 5, 4095);
         due("misses of all", x.at(12, 0), 2 + 8);
         due("hour 12, what 1", x.at(12, 1), BAD);
@@ -680,6 +711,17 @@ public final class PromisesTest {
         whoBy(x, 10, 1, 0b101, 0b101);
         whoBy(x, 0, 1, 0, 0);
         whoBy(x, 1, 0, NOT, 0);
+        rowOf(x, 0, 0, 1, 5, 2);
+        due("one who gives none may be there or not", x.who(0, 0, 0), 4);
+        rowOf(x, 0, 0, 11, 11, 0);
+        x.mend(0, 0, 143);
+        due("certain is who is in all, and none is", x.who(0, 0, 2), 0);
+        x.mend(0, 0, 65);
+        HiredShade one = new HiredShade();
+        one.man(65, 0);
+        one.row(0, 0, 3);
+        due("he may be there or not", one.who(0, 0, 0), 2);
+        due("so he is not certain", one.who(0, 0, 2), 0);
         rowOf(x, 0, 0, 4, 5, 9, 3, 5, 7);
         due("two threes", x.who(0, 0, 0), 2);
         x.put(0, 5, 4);
@@ -802,6 +844,41 @@ public final class PromisesTest {
         due("what -1", z.byTurns(0, 1, -1), BAD);
         due("he stands where he stood", z.of(0, 0), 68);
         due("the sitter, too", z.of(0, 4), 65);
+        atTheEdge();
+    }
+
+    /** The edge of the walk is in the way of both. */
+    private static void atTheEdge() {
+        HiredShade x = new HiredShade();
+        x.man(9, 2);
+        x.sitter(11, 0);
+        x.mend(0, 2, 1);
+        due("he can only go left or down", x.byTurns(0, 82, 0), 1);
+        x.mend(0, 2, 0);
+        due("without arms: he goes down", x.byTurns(0, 82, 0), 0);
+        x.mend(0, 2, 1);
+        x.mend(0, 0, 132 + 9);
+        x.mend(0, 4, 143);
+        due("below he can't go", x.byTurns(0, 82, 0), 1);
+        x.mend(0, 0, 132 + 2);
+        x.mend(0, 4, 132);
+        due("nor left of 0", x.byTurns(0, 12, 0), 1);
+        due("none at first", x.byTurns(0, 12, 1), 4);
+        x.mend(0, 0, 120 + 2);
+        due("down, too", x.byTurns(0, 12, 0), 1);
+        x.mend(0, 0, 96 + 2);
+        due("the man is too far off", x.byTurns(0, 12, 0), 0);
+        x.mend(0, 0, 108 + 2);
+        due("down first", x.byTurns(0, 12, 1), 2);
+        HiredShade up = new HiredShade();
+        up.man(12, 0);
+        up.sitter(0, 0);
+        up.mend(0, 6, 5);
+        due("up first, into cell 0's row", up.byTurns(0, 81, 0), 0);
+        up.mend(0, 4, 1);
+        due("up first, into cell 0", up.byTurns(0, 81, 1), 0);
+        due("whether", up.byTurns(0, 81, 0), 1);
+        due("a step into cell 0", up.steps(0, 0), 0);
     }
 
     private static void turns(HiredShade x, int n, int whether, int first) {
@@ -1016,12 +1093,14 @@ public final class PromisesTest {
         promise = 32;
         for (int i = 39; i >= 0; i--) {
             due("undo", x.undo(), i);
+            due("cell", x.of(0, 0), i + 2);
         }
         due("none", x.undo(), STATE);
         due("the oldest two are gone", x.of(0, 0), 2);
         promise = 33;
         for (int i = 39; i >= 0; i--) {
             due("redo", x.redo(), i);
+            due("cell", x.of(0, 0), 42 - i);
         }
         due("the latest", x.of(0, 0), 42);
         due("none", x.redo(), STATE);

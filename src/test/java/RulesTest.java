@@ -1,4 +1,6 @@
 import java.io.IOException;
+import java.io.PrintWriter;
+import java.io.StringWriter;
 import java.lang.management.ManagementFactory;
 import java.lang.reflect.Constructor;
 import java.lang.reflect.Field;
@@ -8,10 +10,13 @@ import java.nio.file.Files;
 import java.nio.file.Path;
 import java.util.ArrayList;
 import java.util.List;
+import java.util.Map;
 import java.util.Set;
+import java.util.TreeMap;
 import java.util.TreeSet;
 import java.util.regex.Matcher;
 import java.util.regex.Pattern;
+import java.util.spi.ToolProvider;
 
 /** The face that the document tells, and the rules of LANGUAGE.md that a test can see. */
 public final class RulesTest {
@@ -25,6 +30,7 @@ public final class RulesTest {
         classes();
         words(plain(source));
         methods(source);
+        depth();
         memory();
         CHECK.end();
     }
@@ -143,6 +149,74 @@ public final class RulesTest {
             CHECK.holds("at most sixty lines: " + lines[i].trim(), end - i < 60);
         }
         CHECK.holds("methods were found", found > 100);
+    }
+
+    /** Rules 8 and 11: how deep calls go, a ring of methods that call one another counted once each. */
+    private static void depth() {
+        Map<String, Set<String>> calls = new TreeMap<>();
+        for (Class<?> c : all()) {
+            readCalls(c, calls);
+        }
+        CHECK.holds("methods were read", calls.size() > 150);
+        Set<String> rings = new TreeSet<>();
+        for (String method : calls.keySet()) {
+            if (reached(method, calls).contains(method)) {
+                rings.add(method);
+            }
+        }
+        CHECK.holds("only the law's reader and the acts call themselves: " + rings, rings.equals(Set.of(
+            "HiredShade$Law.readLevel", "HiredShade$Law.readOperand", "HiredShade$Trees.from", "HiredShade$Trees.own",
+            "HiredShade$Trees.over", "HiredShade$Trees.run")));
+        for (String method : calls.keySet()) {
+            int deep = deepest(method, calls, new TreeSet<>());
+            CHECK.holds("at most eight deep: " + method + " goes " + deep, deep <= 8);
+        }
+    }
+
+    /** javap's listing names the method that each call goes to. */
+    private static void readCalls(Class<?> c, Map<String, Set<String>> calls) {
+        StringWriter listing = new StringWriter();
+        String place = HiredShade.class.getProtectionDomain().getCodeSource().getLocation().getPath();
+        ToolProvider.findFirst("javap").orElseThrow().run(new PrintWriter(listing), new PrintWriter(System.err),
+            "-p", "-c", place + c.getName() + ".class");
+        Pattern start = Pattern.compile("^  \\S.*?([\\w$]+)\\(.*\\);$");
+        Pattern call = Pattern.compile("// Method (?:([\\w/$]+)\\.)?(\\w+):");
+        String method = "";
+        for (String line : listing.toString().split("\\R")) {
+            Matcher starts = start.matcher(line);
+            Matcher found = call.matcher(line);
+            if (starts.find()) {
+                method = c.getName() + "." + starts.group(1);
+                calls.put(method, new TreeSet<>());
+            } else if (found.find() && !method.isEmpty()) {
+                String owner = found.group(1) == null ? c.getName() : found.group(1);
+                calls.get(method).add(owner + "." + found.group(2));
+            }
+        }
+    }
+
+    private static Set<String> reached(String method, Map<String, Set<String>> calls) {
+        Set<String> reached = new TreeSet<>();
+        List<String> open = new ArrayList<>(calls.getOrDefault(method, Set.of()));
+        while (!open.isEmpty()) {
+            String next = open.remove(open.size() - 1);
+            if (reached.add(next)) {
+                open.addAll(calls.getOrDefault(next, Set.of()));
+            }
+        }
+        return reached;
+    }
+
+    private static int deepest(String method, Map<String, Set<String>> calls, Set<String> above) {
+        int most = 0;
+        above.add(method);
+        for (String next : calls.getOrDefault(method, Set.of())) {
+            if (!above.contains(next)) {
+                most = Math.max(most, deepest(next, calls, above));
+            }
+        }
+        above.remove(method);
+        return most + 1;
     }
 
     /** Rule 12: rows are made with the object, and no call makes another. */
