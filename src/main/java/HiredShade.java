@@ -1324,7 +1324,7 @@ public final class HiredShade {
         int winningStep(int man, int sitter, int hour, int n) {
             int from = people.get(man, CELL);
             int seat = people.get(sitter, SEAT);
-            // Neither makes more than half of the moves: what stands farther off is never looked at.
+            // Neither makes more moves than these: what stands farther off is never looked at.
             int reach = (n + 1) / 2;
             lastPlaces(man, sitter, hour, reach);
             for (int move = n - 1; move > 0; move--) {

@@ -337,6 +337,9 @@ public final class ModelTest {
             int along = random.nextInt(12), far = random.nextInt(2), side = random.nextInt(4);
             int c = side == 0 ? 12 * far + along : side == 1 ? 12 * along + 11 - far
                 : side == 2 ? 12 * (11 - far) + along : 12 * along + far;
+            if (random.nextInt(2) == 0) {
+                c = new int[] {0, 1, 2, 11, 12, 13, 22, 23, 24, 120, 131, 132, 133, 142, 143}[random.nextInt(15)];
+            }
             due("mend", shade.mend(m, 0, c), model.mend(m, 0, c), m, 0, c);
         }
         int ahead = 1 + random.nextInt(3), across = random.nextInt(3) - 1, c = model.men.get(m).cell;

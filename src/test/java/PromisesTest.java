@@ -870,6 +870,18 @@ public final class PromisesTest {
         due("the man is too far off", x.byTurns(0, 12, 0), 0);
         x.mend(0, 0, 108 + 2);
         due("down first", x.byTurns(0, 12, 1), 2);
+        HiredShade rows = new HiredShade();
+        rows.man(21, 2);
+        rows.man(33, 2);
+        rows.mend(0, 2, 0);
+        rows.mend(1, 2, 0);
+        rows.sitter(23, 0);
+        due("he goes up into the top row", rows.byTurns(0, 82, 0), 0);
+        rows.man(9, 2);
+        due("it is shady, too", rows.byTurns(0, 82, 0), 1);
+        due("served where he is", rows.byTurns(0, 81, 0), 1);
+        rows.mend(0, 7, 9);
+        due("as it is now", rows.byTurns(0, 81, 0), 0);
         HiredShade up = new HiredShade();
         up.man(12, 0);
         up.sitter(0, 0);
