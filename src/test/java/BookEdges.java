@@ -183,6 +183,13 @@ final class BookEdges extends Edges {
         due("the second one: the least", x.stood(0, 100, 1), 12 * 4 + 6);
         row(x, 0, BYTES, 4, 5, 1);
         due("the second was away", x.stood(0, 100, 0), 144 - 12);
+        HiredShade y = lawful("m?s;0", 65);
+        y.man(66, 2);
+        y.mend(1, 2, 0);
+        row(y, 0, BYTES, 4, 5, 5);
+        due("the second, by his own kind, arms and number", y.stood(0, 100, 0), 1);
+        due("the least", y.stood(0, 100, 1), 12 * 5 + 9);
+        due("the first by his own", y.stood(0, 0, 0), 0);
         row(x, 0, BYTES, 4, 5, 3, 4);
         due("one that lacks: nowhere", x.stood(0, 0, 0), 0);
         due("one that lacks: NOT", x.stood(0, 0, 1), NOT);
@@ -261,6 +268,9 @@ final class BookEdges extends Edges {
         due("one that lacks: nobody is certain", x.who(0, 0, 2), 0);
         row(x, 0, BYTES, 4, 5, 3, 4, 12, 0);
         due("none such: none", x.who(0, 0, 0), 0);
+        HiredShade one = lawful("12", 65);
+        one.row(0, BYTES, 0);
+        whoIs(one, 2, 0, 0);
         HiredShade empty = new HiredShade();
         empty.row(0, BYTES, 3);
         whoIs(empty, 1, 0, 0);
@@ -294,6 +304,15 @@ final class BookEdges extends Edges {
         law(x, "1");
         row(x, 0, BYTES, 4, 5, 7);
         whoIs(x, 1, 127, 127);
+        x.row(0, BYTES, 60);
+        for (int i = 0; i < 60; i += 3) {
+            x.put(0, i, 4);
+            x.put(0, i + 1, 5);
+            x.put(0, i + 2, 7);
+        }
+        whoIs(x, 1, 127, 127);
+        x.put(0, 59, 6);
+        whoIs(x, 0, NOT, 0);
     }
 
     private void whoAnswers() {

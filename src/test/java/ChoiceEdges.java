@@ -106,6 +106,14 @@ final class ChoiceEdges extends Edges {
         due("their pay", x.enough(3), 21);
         payAll(x, 99, 99, 99, 99, 99, 99, 99);
         due("the most pay", x.enough(3), 198);
+        HiredShade one = lawful("m=2?6;3", 65, 65, 65);
+        one.sitter(64, 1);
+        payAll(one, 3, 4, 7);
+        due("of like pay fewest: one for 7, two for 7", one.enough(2), 4);
+        payAll(one, 3, 4, 8);
+        due("two for 7 cost less than one for 8", one.enough(2), 3);
+        payAll(one, 3, 4, 6);
+        due("one for 6 costs less than two for 7", one.enough(2), 4);
         HiredShade all = lawful("2", 65, 65, 65, 65, 65, 65, 65);
         all.sitter(64, 1);
         all.mend(0, 6, 12);
@@ -233,6 +241,11 @@ final class ChoiceEdges extends Edges {
         x.mend(0, 0, 0);
         due("one is not enough", x.oneMore(0, 1), 1);
         due("of like ones the least", x.oneMore(0, 0), 0);
+        HiredShade y = lawful("6", 66);
+        y.sitter(64, 1);
+        y.mend(0, 6, 12);
+        due("with him who is there, at hour 0", y.oneMore(0, 0), 12 * 4 + 5);
+        due("how many then", y.oneMore(0, 1), 0);
     }
 
     private void oneMoreAtTheEdge() {
@@ -321,6 +334,26 @@ final class ChoiceEdges extends Edges {
         four.sitter(54, 1 << 4);
         four.sitter(41, 1 << 4);
         due("up, right or left: the least", four.step(0, 0), 0);
+        HiredShade both = lawful("6", 76, 88);
+        both.mend(0, 2, 0);
+        both.mend(1, 2, 0);
+        both.sitter(64, 1 << 4);
+        both.mend(0, 6, 12);
+        due("with the other, just his least", both.step(1, 0), 0);
+        due("how many then", both.step(1, 1), 0);
+        HiredShade first = lawful("6", 66, 77);
+        first.mend(0, 2, 0);
+        first.mend(1, 2, 0);
+        first.sitter(64, 1);
+        first.mend(0, 6, 12);
+        due("with the other, at hour 0", first.step(1, 0), 0);
+        HiredShade leaves = lawful("12", 143, 65);
+        leaves.mend(1, 2, 0);
+        leaves.sitter(64, 1);
+        leaves.sitter(52, 1);
+        leaves.sitter(52, 1);
+        due("he leaves one for two", leaves.step(1, 0), 0);
+        due("the one he leaves misses it", leaves.step(1, 1), 1);
         HiredShade nobody = lawful("12", 65);
         due("nobody wants any: none", nobody.step(0, 0), 4);
         due("how many then", nobody.step(0, 1), 0);

@@ -438,6 +438,22 @@ final class DeedEdges extends Edges {
         due("not the first", x.of(0, 3), 11);
         x.undo();
         due("the first", x.of(0, 3), 10);
+        HiredShade y = new HiredShade();
+        for (int i = 0; i < 8; i++) {
+            y.man(i, 0);
+            y.sitter(i, 0);
+        }
+        for (int what = 0; what < 7; what++) {
+            y.mend(what < 4 ? 6 : 7, what, 2);
+        }
+        for (int what = 6; what >= 0; what--) {
+            int number = what < 4 ? 6 : 7;
+            int was = new int[] {6, 0, 1, 10, 7, 0, 6}[what];
+            due("of the last man or sitter, what " + what, y.of(number, what), 2);
+            due("undone", y.undo(), what);
+            due("as it was", y.of(number, what), was);
+            due("of the first, what " + what, y.of(0, what), new int[] {0, 0, 1, 10, 0, 0, 6}[what]);
+        }
     }
 
     private void noOtherCameBehind() {

@@ -93,6 +93,10 @@ final class LawEdges extends Edges {
         fault(times(59, "1+") + "1)", 119);
         HiredShade x = new HiredShade();
         x.man(65, 0);
+        for (int i = 1; i <= 3; i++) {
+            due("one behind another", law(x, times(59, "0+") + "0" + i), 1);
+            due("its last byte counts", x.shade(6400, 0), i);
+        }
         feed(x, times(59, "0|") + "0;");
         x.feed('1');
         due("a text of 121 bytes lacks the last", x.law(), -220);

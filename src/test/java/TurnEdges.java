@@ -9,6 +9,7 @@ final class TurnEdges extends Edges {
         movesByTurns();
         manAtTheEdge();
         sitterAtTheEdge();
+        outByOneWay();
         likeFirstSteps();
         othersStay();
         turnsAnswers();
@@ -103,6 +104,29 @@ final class TurnEdges extends Edges {
         due("but the man follows first", inner.byTurns(0, 92, 1), 1);
         inner.goes(0, 12 * 5 + 8);
         due("he is ahead too far", inner.byTurns(0, 92, 0), 0);
+    }
+
+    private void outByOneWay() {
+        says(23, "one step or none each");
+        outBy("left", 60, 61, 92, 4);
+        outBy("right", 71, 70, 12, 4);
+        outBy("down", 132 + 5, 120 + 5, 62, 4);
+        outBy("up", 65, 29, 62, 10);
+        outBy("up into the first row", 26, 16, 92, 10);
+        outBy("down into the last row", 110, 124, 92, 12);
+        outBy("right, off the first columns", 48, 25, 62, 11);
+        // The man's second move, from the first cell and to it.
+        outBy("nowhere, from the first cell", 0, 2, 83, 14);
+        outBy("nowhere, to the first cell", 1, 2, 83, 14);
+    }
+
+    /** An oak with arms 1: whether the sitter gets out that way, or the man has to follow first. */
+    private void outBy(String way, int man, int seat, int hn, int want) {
+        HiredShade x = lawful("12");
+        x.man(man, 2);
+        x.sitter(seat, 0);
+        due("out by " + way + ": whether", x.byTurns(0, hn, 0), want / 10);
+        due("out by " + way + ": first step", x.byTurns(0, hn, 1), want % 10);
     }
 
     private void likeFirstSteps() {
