@@ -183,6 +183,14 @@ final class BookEdges extends Edges {
         due("the second one: the least", x.stood(0, 100, 1), 12 * 4 + 6);
         row(x, 0, BYTES, 4, 5, 1);
         due("the second was away", x.stood(0, 100, 0), 144 - 12);
+        row(x, 0, BYTES, 0, 11, 1);
+        due("there is no cell below the last row: nowhere", x.stood(0, 4, 0), 0);
+        due("there is no cell below the last row: NOT", x.stood(0, 4, 1), NOT);
+        x.row(0, BYTES, 60);
+        due("twenty threes", x.stood(0, 100, 0), 144 - 8);
+        due("twenty threes: the least", x.stood(0, 100, 1), 0);
+        x.put(0, 59, 2);
+        due("the last of twenty is of the same cell", x.stood(0, 100, 0), 0);
         HiredShade y = lawful("m?s;0", 65);
         y.man(66, 2);
         y.mend(1, 2, 0);

@@ -241,6 +241,15 @@ final class ChoiceEdges extends Edges {
         x.mend(0, 0, 0);
         due("one is not enough", x.oneMore(0, 1), 1);
         due("of like ones the least", x.oneMore(0, 0), 0);
+        HiredShade eight = lawful("12");
+        for (int i = 0; i < 8; i++) {
+            eight.sitter(i == 7 ? 64 : 143, 1 << 11);
+        }
+        due("for seven of eight", eight.oneMore(0, 0), 12 * 10 + 7);
+        due("how many then", eight.oneMore(0, 1), 1);
+        eight.man(142, 0);
+        due("now for the last of eight", eight.oneMore(0, 0), 12 * 4);
+        due("how many then", eight.oneMore(0, 1), 0);
         HiredShade y = lawful("6", 66);
         y.sitter(64, 1);
         y.mend(0, 6, 12);

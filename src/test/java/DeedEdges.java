@@ -22,6 +22,7 @@ final class DeedEdges extends Edges {
         ledAnswers();
         ledIsBad();
         imageKeeps();
+        imageOfAll();
         imageAnswers();
         backAnswers();
         cameSince();
@@ -298,6 +299,27 @@ final class DeedEdges extends Edges {
             due("cells and arms as they were, all else as it is: " + what, x.of(0, what), dues[what]);
         }
         due("changes as they are", x.count(3), 8);
+    }
+
+    private void imageOfAll() {
+        says(30, "AN IMAGE keeps CELLS, ARMS");
+        HiredShade x = new HiredShade();
+        for (int i = 0; i < 8; i++) {
+            x.man(50 + i, 0);
+            x.sitter(60 + i, 0);
+        }
+        due("seven men, eight sitters", x.image(), 0);
+        for (int i = 0; i < 8; i++) {
+            x.steps(i, 0);
+            x.bird(i);
+            x.goes(i, 0);
+        }
+        due("back", x.back(), 0);
+        for (int i = 0; i < 8; i++) {
+            due("his cell", x.of(i, 0), i < 7 ? 50 + i : BAD);
+            due("his arms", x.of(i, 2), i < 7 ? 1 : BAD);
+            due("the sitter's cell", x.of(i, 4), 60 + i);
+        }
     }
 
     private void imageAnswers() {

@@ -406,6 +406,16 @@ final class LawEdges extends Edges {
         gives("0?3", 0);
         gives("0?3;0?4;0?5", 0);
         gives("k?1;a?2;b?3;h?4;m?5;s?6;7", 6);
+        HiredShade x = new HiredShade();
+        x.man(65, 0);
+        for (int i = 0; i < 4; i++) {
+            for (int longer = 0; longer < 2; longer++) {
+                due("a longer law", law(x, "0?1;0?2;0?3;5"), 1);
+                due("its last line", x.shade(6400, 0), 5);
+            }
+            due("a shorter one", law(x, i % 2 == 0 ? "0?3" : "0?3;0?4"), 1);
+            due("none: nothing of the longer one is left", x.shade(6400, 0), 0);
+        }
     }
 
     private void faultAtAByte() {

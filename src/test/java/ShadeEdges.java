@@ -20,6 +20,7 @@ final class ShadeEdges extends Edges {
         cellAndHour();
         byAllOrOne();
         shadeIsBad();
+        nobodyElse();
         byOneInThought();
         haveAny();
         darkest();
@@ -217,6 +218,23 @@ final class ShadeEdges extends Edges {
         due("the highest", x.shade(6400, HIGHEST), BAD);
     }
 
+    /** Cell 0 is where a man would be of whom nothing is told. */
+    private void nobodyElse() {
+        says(9, "by one of MEN;");
+        HiredShade x = lawful("12");
+        for (int men = 0; men <= 7; men++) {
+            if (men == 1) {
+                x.sitter(1, 4095);
+            }
+            due("no other man gives any: " + men + " men", x.walk(8, 0), 0);
+            due("served by no other", x.at(8, 0), 0);
+            due("misses", x.at(12, 0), men == 0 ? 0 : 12);
+            due("drawn", x.drawn(5, 100, -1), men == 0 ? 0 : 12);
+            x.man(143, 0);
+        }
+        due("nor has he a share", x.share(8, 100), 0);
+    }
+
     private void byOneInThought() {
         says(9, "IN THOUGHT: how much shade a CELL has at an HOUR; by one of MEN;");
         HiredShade x = lawful("8", 65, 65);
@@ -241,6 +259,14 @@ final class ShadeEdges extends Edges {
         x.mend(0, 0, 0);
         x.mend(1, 0, 0);
         due("over the edge there is none", x.walk(0, 0), 0);
+        HiredShade first = lawful("1", 1);
+        first.mend(0, 2, 0);
+        due("the first cell counts", first.walk(0, 0), 1);
+        first.mend(0, 0, 142);
+        due("the last cell counts", first.walk(8, 0), 1);
+        first.mend(0, 2, 1);
+        first.mend(0, 0, 133);
+        due("none below the last row counts", first.walk(0, 0), 2);
     }
 
     private void darkest() {
@@ -261,6 +287,13 @@ final class ShadeEdges extends Edges {
         HiredShade last = lawful("1", 142);
         last.mend(0, 2, 0);
         due("the last cell of all", last.walk(8, 1), 143);
+        HiredShade first = lawful("s", 2);
+        first.mend(0, 2, 0);
+        due("the first cell of all", first.walk(0, 1), 0);
+        // Both would reach the row below the last: there it would be darkest.
+        HiredShade low = lawful("m=a-1?5;0", 133, 121);
+        low.mend(1, 2, 2);
+        due("no cell below the last row", low.walk(0, 1), 12 * 8);
     }
 
     private void walkAnswers() {

@@ -161,6 +161,11 @@ final class TurnEdges extends Edges {
         x.mend(0, 6, 6);
         due("the second is too far off", x.byTurns(10, 1, 0), 1);
         due("but the first is there", x.byTurns(10, 1, 1), 4);
+        HiredShade far = lawful("12", 143, 133);
+        far.sitter(132, 0);
+        due("the other serves him, at the edge", far.byTurns(0, 1, 0), 1);
+        due("none first", far.byTurns(0, 1, 1), 4);
+        due("he goes right, out of it", far.byTurns(0, 2, 0), 0);
         due("nobody moved in deed", x.of(0, 0), 65);
         due("nobody moved in deed", x.of(1, 0), 0);
         due("nobody moved in deed", x.of(0, 4), 64);
